@@ -63,10 +63,8 @@ public final class GasMeter {
     private int nowHeight;
     private int purse;
 
+    // Every field begins as 0, and a new object is just that: NO_RUN is 0 too.
     public GasMeter() {
-        programSize = 0;
-        gasLeft = 0;
-        lastEnding = NO_RUN;
     }
 
     public int append(int op, int a) {
