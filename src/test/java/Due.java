@@ -1,4 +1,7 @@
-/** Compares answers with the ones that are due, and ends the test with exit code 1 if one differed. */
+/**
+ * Compares answers with the ones that are due, and ends the test with exit code 1 if one differed. Each test tells the
+ * document's sentence that it is about, and a wrong answer is printed with it.
+ */
 final class Due {
     static final int PUSH = 0;
     static final int ADD = 1;
@@ -18,24 +21,38 @@ final class Due {
 
     private int wrong = 0;
     private int compared = 0;
+    private String sentence = "";
+    private int comparedBefore = -1;
+
+    /** The document's words that the answers compared from here on belong to. */
+    void sentence(String words) {
+        seeThatSomethingWasCompared();
+        sentence = words;
+        comparedBefore = compared;
+    }
 
     void is(String what, long got, long want) {
-        compared++;
-        if (got != want) {
-            wrong++;
-            System.out.println(what + " answered " + got + ", due is " + want);
-        }
+        is(what, "" + got, "" + want);
     }
 
     void is(String what, String got, String want) {
         compared++;
         if (!got.equals(want)) {
             wrong++;
-            System.out.println(what + ": " + got + ", due is " + want);
+            System.out.println("<" + sentence + "> " + what + " answered " + got + ", due is " + want);
+        }
+    }
+
+    // A sentence whose test compares nothing would hold whatever the program does.
+    private void seeThatSomethingWasCompared() {
+        if (compared == comparedBefore) {
+            wrong++;
+            System.out.println("<" + sentence + "> nothing was compared");
         }
     }
 
     void end() {
+        seeThatSomethingWasCompared();
         System.out.println(wrong + " of " + compared + " answers are not as due");
         if (wrong != 0 || compared == 0) {
             System.exit(1);
@@ -46,6 +63,24 @@ final class Due {
     static GasMeter with(int... instructions) {
         GasMeter m = new GasMeter();
         load(m, instructions);
+        return m;
+    }
+
+    /** A new object whose program puts 1, 2, .. on the pile, up to the height given: 2 gas and a step for each. */
+    static GasMeter withPileOf(int height) {
+        GasMeter m = new GasMeter();
+        for (int i = 1; i <= height; i++) {
+            load(m, PUSH, i);
+        }
+        return m;
+    }
+
+    /** A new object with as many instructions halt. */
+    static GasMeter withHalts(int count) {
+        GasMeter m = new GasMeter();
+        for (int i = 0; i < count; i++) {
+            load(m, HALT, 0);
+        }
         return m;
     }
 
@@ -60,8 +95,17 @@ final class Due {
     /** Funds in as many calls as it takes. */
     static void fund(GasMeter m, int g) {
         for (int rest = g; rest > 0; rest -= 2000) {
-            m.fund(rest < 2000 ? rest : 2000);
+            if (m.fund(rest < 2000 ? rest : 2000) < 0) {
+                throw new IllegalStateException("the test's own funding is refused with " + rest + " to go");
+            }
         }
+    }
+
+    /** Funds, runs, and tells of the run. */
+    static String runWith(GasMeter m, int g) {
+        fund(m, g);
+        m.run();
+        return lastRun(m);
     }
 
     static String pileOf(GasMeter m) {
