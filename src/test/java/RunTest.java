@@ -320,7 +320,7 @@ public final class RunTest {
     }
 
     private static void runAnswersHowItEnded() {
-        due.sentence("Answers how it ended.");
+        due.sentence("A run. Answers how it ended.");
         for (int e = GasMeter.HALTED; e <= GasMeter.BROKE; e++) {
             due.is("run to " + e, toEnd(e).run(), e);
         }
